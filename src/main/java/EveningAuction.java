@@ -75,17 +75,19 @@ public final class EveningAuction {
     }
 
     public int fault() {
-        return parsedBids().faultAt;
+        judgedOutcome();
+        return bids.faultAt;
     }
 
     public int undo() {
-        int number = parsedBids().number;
-        if (number == 0) {
+        judgedOutcome();
+        if (bids.number == 0) {
             return NOT;
         }
-        bids.keep(number - 1);
+        int left = bids.number - 1;
+        bids.keep(left);
         edition++;
-        return number - 1;
+        return left;
     }
 
     public int bidder(int bidder, int what, int v) {
@@ -162,10 +164,11 @@ public final class EveningAuction {
     // ---- what comes of it
 
     public int holds(int bid) {
-        if (!isBid(bid)) {
+        Outcome now = judgedOutcome();
+        if (!within(bid, 0, bids.number - 1)) {
             return BAD;
         }
-        return judgedOutcome().held[bid] ? 1 : 0;
+        return now.held[bid] ? 1 : 0;
     }
 
     public int judged() {
@@ -183,23 +186,25 @@ public final class EveningAuction {
         if (!isEvening(evening)) {
             return BAD;
         }
-        if (judgedOutcome().leaders[evening] == NONE) {
+        Outcome now = judgedOutcome();
+        if (now.leaders[evening] == NONE) {
             return NOT;
         }
-        return priceOf(evening);
+        return now.priceOf(town, evening);
     }
 
     public int has(int bidder, int what) {
         if (!isBidder(bidder)) {
             return BAD;
         }
+        Outcome now = judgedOutcome();
         switch (what) {
             case 0:
-                return eveningsOf(bidder);
+                return now.eveningsOf(bidder);
             case 1:
-                return judgedOutcome().bound[bidder];
+                return now.bound[bidder];
             case 2:
-                return town.purses[bidder] - pricesOf(bidder);
+                return town.purses[bidder] - now.pricesOf(town, bidder);
             default:
                 return BAD;
         }
@@ -209,9 +214,10 @@ public final class EveningAuction {
         if (!isBidder(bidder)) {
             return BAD;
         }
+        Outcome now = judgedOutcome();
         int sum = 0;
         for (int evening = 0; evening < EVENINGS; evening++) {
-            sum += joyIn(evening, bidder);
+            sum += town.joyBy(now.leaders[evening], bidder);
         }
         return sum;
     }
@@ -220,13 +226,14 @@ public final class EveningAuction {
         if (!isBidder(bidder)) {
             return BAD;
         }
+        Outcome now = judgedOutcome();
         int sum = 0;
         int lots = seed;
         for (int evening = 0; evening < EVENINGS; evening++) {
             lots = 1103515245 * lots + 12345;
             boolean refused = (lots >>> 16) % 16 < town.clouds[evening];
             if (!refused) {
-                sum += joyIn(evening, bidder);
+                sum += town.joyBy(now.leaders[evening], bidder);
             }
         }
         return sum;
@@ -258,11 +265,12 @@ public final class EveningAuction {
                 sum += town.values[bidder][evening];
             }
         }
-        return sum - pricesOf(bidder);
+        return sum - now.pricesOf(town, bidder);
     }
 
     public int without(int bid, int evening) {
-        if (!isBid(bid) || !isEvening(evening)) {
+        judgedOutcome();
+        if (!within(bid, 0, bids.number - 1) || !isEvening(evening)) {
             return BAD;
         }
         otherOutcome.judge(town, bids, bid);
@@ -275,14 +283,15 @@ public final class EveningAuction {
         if (!within(bidders, 1, ALL_BIDDERS) || !within(k, 1, 4) || !within(what, 0, 1)) {
             return BAD;
         }
+        Outcome now = judgedOutcome();
         int cost = 0;
         int chosen = 0;
         for (int turn = 0; turn < k; turn++) {
-            int evening = cheapestToMeet(bidders, chosen);
+            int evening = cheapestToMeet(now, bidders, chosen);
             if (evening == NONE) {
                 return NONE;
             }
-            cost += costToMeet(evening, bidders);
+            cost += now.costToMeet(town, bidders, evening);
             chosen |= 1 << evening;
         }
         return what == 0 ? cost : chosen;
@@ -303,7 +312,7 @@ public final class EveningAuction {
             return BAD;
         }
         OneEach now = solvedOneEach();
-        int othersNow = now.total - OneEach.valueOf(town.values[bidder], now.row[bidder]);
+        int othersNow = now.total - town.valueTo(bidder, now.row[bidder]);
         return now.totalWithout[bidder] - othersNow;
     }
 
@@ -484,17 +493,18 @@ public final class EveningAuction {
     }
 
     public int count(int what) {
+        Outcome now = judgedOutcome();
         switch (what) {
             case 0:
-                return parsedBids().number;
+                return bids.number;
             case 1:
                 return bids.length;
             case 2:
-                return judgedOutcome().numberHeld;
+                return now.numberHeld;
             case 3:
-                return eveningsOwned();
+                return now.numberOwned();
             case 4:
-                return allPrices();
+                return now.allPrices(town);
             case 5:
                 return sightings.number;
             case 6:
@@ -528,7 +538,7 @@ public final class EveningAuction {
 
     private long digestOfBids(long before) {
         long h = before;
-        int number = parsedBids().number;
+        int number = count(0);
         for (int bid = 0; bid < number; bid++) {
             h = 31 * h + holds(bid);
             h = 31 * h + without(bid, 0);
@@ -596,10 +606,6 @@ public final class EveningAuction {
         return within(form, BYTES, INTS);
     }
 
-    private boolean isBid(int bid) {
-        return within(bid, 0, parsedBids().number - 1);
-    }
-
     // ---- changes and findings
 
     private int replace(int[] row, int at, int v) {
@@ -627,17 +633,11 @@ public final class EveningAuction {
 
     // ---- what is worked out once for each edition
 
-    private BidText parsedBids() {
-        if (bids.edition != edition) {
-            bids.parse();
-            bids.edition = edition;
-        }
-        return bids;
-    }
-
+    /** Behind this the text of the bids has been parsed too. */
     private Outcome judgedOutcome() {
         if (outcome.edition != edition) {
-            outcome.judge(town, parsedBids(), NONE);
+            bids.parse();
+            outcome.judge(town, bids, NONE);
             outcome.edition = edition;
         }
         return outcome;
@@ -645,7 +645,7 @@ public final class EveningAuction {
 
     private OneEach solvedOneEach() {
         if (oneEach.edition != edition) {
-            oneEach.solve(town.values);
+            oneEach.solve(town);
             oneEach.edition = edition;
         }
         return oneEach;
@@ -659,77 +659,19 @@ public final class EveningAuction {
         return clubs;
     }
 
-    // ---- sums over the outcome
-
-    /** The price of an evening that somebody owns. */
-    private int priceOf(int evening) {
-        Outcome now = judgedOutcome();
-        if (town.rules[LAW] == 0) {
-            return now.amounts[evening];
-        }
-        return Math.max(now.seconds[evening], town.reserves[evening]);
-    }
-
-    private int pricesOf(int bidder) {
-        Outcome now = judgedOutcome();
-        int sum = 0;
-        for (int evening = 0; evening < EVENINGS; evening++) {
-            if (now.leaders[evening] == bidder) {
-                sum += priceOf(evening);
-            }
-        }
-        return sum;
-    }
-
-    private int allPrices() {
-        int sum = 0;
-        for (int bidder = 0; bidder < BIDDERS; bidder++) {
-            sum += pricesOf(bidder);
-        }
-        return sum;
-    }
-
-    private int eveningsOf(int bidder) {
-        Outcome now = judgedOutcome();
-        int bits = 0;
-        for (int evening = 0; evening < EVENINGS; evening++) {
-            if (now.leaders[evening] == bidder) {
-                bits |= 1 << evening;
-            }
-        }
-        return bits;
-    }
-
-    private int eveningsOwned() {
-        Outcome now = judgedOutcome();
-        int owned = 0;
-        for (int evening = 0; evening < EVENINGS; evening++) {
-            if (now.leaders[evening] != NONE) {
-                owned++;
-            }
-        }
-        return owned;
-    }
-
-    /** The joy of a bidder in what all do in an evening; 0, if nobody owns it. */
-    private int joyIn(int evening, int bidder) {
-        int owner = judgedOutcome().leaders[evening];
-        return isBidder(owner) ? town.joys[bidder][town.programmes[owner]] : 0;
-    }
-
     // ---- where a club can meet
 
     /**
      * Taking the cheapest evening, of like ones the first, again and again gives the least cost
      * and of like choices the least bits.
      */
-    private int cheapestToMeet(int bidders, int chosen) {
+    private int cheapestToMeet(Outcome now, int bidders, int chosen) {
         int cheapest = NONE;
         int least = 0;
         for (int evening = 0; evening < EVENINGS; evening++) {
             boolean possible = ((chosen >> evening) & 1) == 0 && !town.isAnyBusy(bidders, evening);
             if (possible) {
-                int cost = costToMeet(evening, bidders);
+                int cost = now.costToMeet(town, bidders, evening);
                 if (cheapest == NONE || cost < least) {
                     cheapest = evening;
                     least = cost;
@@ -737,16 +679,6 @@ public final class EveningAuction {
             }
         }
         return cheapest;
-    }
-
-    private int costToMeet(int evening, int bidders) {
-        Outcome now = judgedOutcome();
-        int owner = now.leaders[evening];
-        if (!isBidder(owner)) {
-            return Math.max(town.reserves[evening], 1);
-        }
-        boolean owned = ((bidders >> owner) & 1) == 1;
-        return owned ? 0 : now.amounts[evening] + town.rules[STEP];
     }
 
     // ---- fractions
@@ -795,6 +727,16 @@ public final class EveningAuction {
             return sum;
         }
 
+        /** The joy of a bidder in an evening of an owner; 0, if that is none. */
+        int joyBy(int owner, int bidder) {
+            return isBidder(owner) ? joys[bidder][programmes[owner]] : 0;
+        }
+
+        /** The value of an evening to a bidder; 0, if that is none. */
+        int valueTo(int bidder, int evening) {
+            return evening >= 0 && evening < EVENINGS ? values[bidder][evening] : 0;
+        }
+
         boolean isAnyBusy(int bidders, int evening) {
             for (int bidder = 0; bidder < BIDDERS; bidder++) {
                 if (((bidders >> bidder) & 1) == 1 && busyness[bidder][evening] == 1) {
@@ -821,7 +763,6 @@ public final class EveningAuction {
         int length = 0;
         int faultAt = NONE;
         int number = 0;
-        int edition = 0;
 
         /** The caller has seen that there is room. */
         void append(int b) {
@@ -833,20 +774,19 @@ public final class EveningAuction {
             length = bidsKept == 0 ? 0 : bidsKept * BID_BYTES - 1;
         }
 
-        void parse() {
-            faultAt = firstFault();
-            number = faultAt == NONE ? (length + 1) / BID_BYTES : 0;
-        }
-
         /** A twenty-first bid would begin where the longest text ends, so it is told as one not ended. */
-        private int firstFault() {
-            for (int place = 0; place < length; place++) {
+        void parse() {
+            faultAt = NONE;
+            for (int place = 0; place < length && faultAt == NONE; place++) {
                 if (!fits(place)) {
-                    return place;
+                    faultAt = place;
                 }
             }
             boolean ended = length == 0 || length % BID_BYTES == BID_BYTES - 1;
-            return ended ? NONE : length;
+            if (faultAt == NONE && !ended) {
+                faultAt = length;
+            }
+            number = faultAt == NONE ? (length + 1) / BID_BYTES : 0;
         }
 
         private boolean fits(int place) {
@@ -930,14 +870,70 @@ public final class EveningAuction {
 
         /** Each bid that holds is above the one before it, so the greatest of the others is the last that led. */
         private void lead(int evening, int bidder, int amount) {
-            if (isBidder(leaders[evening])) {
-                bound[leaders[evening]] -= amounts[evening];
+            int before = leaders[evening];
+            if (before >= 0 && before < BIDDERS) {
+                bound[before] -= amounts[evening];
             }
             seconds[evening] = amounts[evening];
             leaders[evening] = bidder;
             amounts[evening] = amount;
             bound[bidder] += amount;
             numberHeld++;
+        }
+
+        /** The price of an evening that somebody owns. */
+        int priceOf(Town town, int evening) {
+            if (town.rules[LAW] == 0) {
+                return amounts[evening];
+            }
+            return Math.max(seconds[evening], town.reserves[evening]);
+        }
+
+        int pricesOf(Town town, int bidder) {
+            int sum = 0;
+            for (int evening = 0; evening < EVENINGS; evening++) {
+                if (leaders[evening] == bidder) {
+                    sum += priceOf(town, evening);
+                }
+            }
+            return sum;
+        }
+
+        int allPrices(Town town) {
+            int sum = 0;
+            for (int bidder = 0; bidder < BIDDERS; bidder++) {
+                sum += pricesOf(town, bidder);
+            }
+            return sum;
+        }
+
+        int eveningsOf(int bidder) {
+            int bits = 0;
+            for (int evening = 0; evening < EVENINGS; evening++) {
+                if (leaders[evening] == bidder) {
+                    bits |= 1 << evening;
+                }
+            }
+            return bits;
+        }
+
+        int numberOwned() {
+            int owned = 0;
+            for (int evening = 0; evening < EVENINGS; evening++) {
+                if (leaders[evening] != NONE) {
+                    owned++;
+                }
+            }
+            return owned;
+        }
+
+        int costToMeet(Town town, int bidders, int evening) {
+            int owner = leaders[evening];
+            if (owner == NONE) {
+                return Math.max(town.reserves[evening], 1);
+            }
+            boolean owned = ((bidders >> owner) & 1) == 1;
+            return owned ? 0 : amounts[evening] + town.rules[STEP];
         }
     }
 
@@ -950,77 +946,58 @@ public final class EveningAuction {
         int total = 0;
         int edition = 0;
 
-        void solve(int[][] values) {
-            total = mostFrom(values, 0, 0);
+        void solve(Town town) {
+            total = mostFrom(town, 0, 0);
             for (int bidder = 0; bidder < BIDDERS; bidder++) {
-                totalWithout[bidder] = mostOfSet[mostOfSet.length - 1 - setOf(bidder)];
+                int one = 1 << (BIDDERS - 1 - bidder);
+                totalWithout[bidder] = mostOfSet[mostOfSet.length - 1 - one];
             }
-            chooseLeastRow(values);
-        }
-
-        static int valueOf(int[] valuesOfOne, int evening) {
-            return isEvening(evening) ? valuesOfOne[evening] : 0;
-        }
-
-        private static int setOf(int bidder) {
-            return 1 << (BIDDERS - 1 - bidder);
-        }
-
-        /** The most that bidders from the first on can have of evenings that are not taken. */
-        private int mostFrom(int[][] values, int first, int taken) {
-            int sets = 1 << (BIDDERS - first);
-            for (int set = 0; set < sets; set++) {
-                mostOfSet[set] = 0;
-            }
-            for (int evening = 0; evening < EVENINGS; evening++) {
-                if (((taken >> evening) & 1) == 0) {
-                    offer(values, first, evening);
-                }
-            }
-            return mostOfSet[sets - 1];
-        }
-
-        /** Greater sets come first: they need what lesser sets had without this evening. */
-        private void offer(int[][] values, int first, int evening) {
-            for (int set = (1 << (BIDDERS - first)) - 1; set > 0; set--) {
-                int most = mostOfSet[set];
-                for (int bidder = first; bidder < BIDDERS; bidder++) {
-                    int one = setOf(bidder);
-                    if ((set & one) != 0) {
-                        most = Math.max(most, mostOfSet[set - one] + values[bidder][evening]);
-                    }
-                }
-                mostOfSet[set] = most;
-            }
-        }
-
-        private void chooseLeastRow(int[][] values) {
             int left = total;
             int taken = 0;
             for (int bidder = 0; bidder < BIDDERS; bidder++) {
-                int evening = leastChoice(values, bidder, taken, left);
+                int evening = leastChoice(town, bidder, taken, left);
                 row[bidder] = evening;
-                left -= valueOf(values[bidder], evening);
-                if (evening != NONE) {
-                    taken |= 1 << evening;
-                }
+                left -= town.valueTo(bidder, evening);
+                taken |= evening == NONE ? 0 : 1 << evening;
             }
         }
 
         /** The least choice of a bidder with which it and those behind it still have all that is left. */
-        private int leastChoice(int[][] values, int bidder, int taken, int left) {
-            if (mostFrom(values, bidder + 1, taken) == left) {
+        private int leastChoice(Town town, int bidder, int taken, int left) {
+            if (mostFrom(town, bidder + 1, taken) == left) {
                 return NONE;
             }
             for (int evening = 0; evening < EVENINGS; evening++) {
                 if (((taken >> evening) & 1) == 0) {
-                    int rest = mostFrom(values, bidder + 1, taken | (1 << evening));
-                    if (values[bidder][evening] + rest == left) {
+                    int rest = mostFrom(town, bidder + 1, taken | (1 << evening));
+                    if (town.values[bidder][evening] + rest == left) {
                         return evening;
                     }
                 }
             }
             return NONE;
+        }
+
+        /** The most that bidders from the first on can have of evenings that are not taken. */
+        private int mostFrom(Town town, int first, int taken) {
+            int all = (1 << (BIDDERS - first)) - 1;
+            for (int set = 0; set <= all; set++) {
+                mostOfSet[set] = 0;
+            }
+            for (int evening = 0; evening < EVENINGS; evening++) {
+                boolean free = ((taken >> evening) & 1) == 0;
+                // Greater sets come first: they need what lesser sets had without this evening.
+                for (int set = all; free && set > 0; set--) {
+                    for (int bidder = first; bidder < BIDDERS; bidder++) {
+                        int one = 1 << (BIDDERS - 1 - bidder);
+                        if ((set & one) != 0) {
+                            int had = mostOfSet[set - one] + town.values[bidder][evening];
+                            mostOfSet[set] = had > mostOfSet[set] ? had : mostOfSet[set];
+                        }
+                    }
+                }
+            }
+            return mostOfSet[all];
         }
     }
 

@@ -120,6 +120,11 @@ public final class ClubsTest {
         x.value(3, 1, 20);
         due.is("25 pays(1) with one behind it", x.pays(1), 20);
         due.is("25 pays(0) by two others", x.pays(0), 30);
+        x.value(4, 0, 33);
+        due.is("25 pays(0) by the last", x.pays(0), 33);
+        x.value(4, 0, 60);
+        due.is("25 pays(0) of none", x.pays(0), 0);
+        due.is("25 pays(4)", x.pays(4), 50);
         for (int bidder : new int[] {-1, 5, MIN, MAX}) {
             due.is("25 pays(" + bidder + ")", x.pays(bidder), BAD);
         }
@@ -232,5 +237,13 @@ public final class ClubsTest {
         due.is("28 rather(0) of one below", x.rather(0), 4);
         Due.ints(x, 0, 0, -1, 1, 10, 15);
         due.is("28 rather(0) of a second below", x.rather(0), 2);
+        EveningAuction y = new EveningAuction();
+        for (int bidder = 0; bidder < 5; bidder++) {
+            y.value(bidder, bidder, 1);
+        }
+        Due.ints(y, 0, 1, 1, 1, 1, 0);
+        due.is("28 rather(0) of the last", y.rather(0), 16);
+        Due.ints(y, 0, 2, 2, 2, 2, -3);
+        due.is("28 rather(0) of the last below 0", y.rather(0), 16);
     }
 }

@@ -207,6 +207,12 @@ public final class OutcomeTest {
             x.joy(bidder, 3, 9);
         }
         due.is("20 harm(1) of all joy", x.harm(1), 45);
+        for (int bidder = 0; bidder < 5; bidder++) {
+            x.joy(bidder, 3, 8);
+            x.joy(bidder, 0, 9);
+        }
+        due.is("20 harm(1) by the first programme", x.harm(1), 45);
+        due.is("20 harm(0) of the first programme", x.harm(0), 0);
         due.is("20 harm(2) of nobody's", x.harm(2), NOT);
         for (int evening : NO_EVENINGS) {
             due.is("20 harm(" + evening + ")", x.harm(evening), BAD);

@@ -224,6 +224,11 @@ public final class SheetsTest {
         x.set(1, 1);
         x.evening(1, 0, 6);
         countsAre(x, 5, 24, 3, 2, 16, 2, 3, 1, 0);
+        Due.type(x, ";2007");
+        x.set(1, 0);
+        countsAre(x, 6, 29, 4, 3, 42, 2, 3, 0, 0);
+        x.undo();
+        x.set(1, 1);
         x.type('x');
         countsAre(x, 0, 25, 0, 0, 0, 2, 3, 1, 0);
         for (int what : new int[] {-1, 9, MIN, MAX}) {
@@ -279,6 +284,14 @@ public final class SheetsTest {
         x.seen(3, 0);
         x.seen(4, 0);
         due.is("41 digest()", x.digest(), digestByParts(x));
+        x.value(1, 0, 10);
+        x.value(1, 1, 20);
+        x.value(1, 2, 5);
+        x.value(3, 1, 10);
+        x.value(3, 0, 20);
+        due.is("41 swap(0, 1)", x.swap(0, 1), 1);
+        due.is("41 swap(0, 2)", x.swap(0, 2), 0);
+        due.is("41 digest() with a swap", x.digest(), digestByParts(x));
         x.set(1, 1);
         x.set(2, 1);
         x.busy(0, 1, 1);
