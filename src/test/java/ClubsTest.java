@@ -210,6 +210,11 @@ public final class ClubsTest {
         due.is("28 rather(0): a sum does not wrap", x.rather(0), NONE);
         Due.ints(x, 0, MIN, MIN, MIN, MIN, MIN);
         due.is("28 rather(0) of the least", x.rather(0), 1);
+        x.sheet(0, 2, 60);
+        for (int i = 5; i < 60; i++) {
+            x.lay(0, 2, i, 1000);
+        }
+        due.is("28 rather(0): items behind the fifth are nobody's", x.rather(0), 1);
         x.sheet(1, 0, 5);
         due.is("28 rather(1) of bytes", x.rather(1), 1);
         x.lay(1, 0, 0, 200);

@@ -213,6 +213,12 @@ public final class OutcomeTest {
         }
         due.is("20 harm(1) by the first programme", x.harm(1), 45);
         due.is("20 harm(0) of the first programme", x.harm(0), 0);
+        for (int bidder = 0; bidder < 5; bidder++) {
+            for (int programme = 0; programme < 5; programme++) {
+                x.joy(bidder, programme, 0);
+            }
+        }
+        due.is("20 harm(0) where nobody has joy", x.harm(0), 0);
         due.is("20 harm(2) of nobody's", x.harm(2), NOT);
         for (int evening : NO_EVENINGS) {
             due.is("20 harm(" + evening + ")", x.harm(evening), BAD);
