@@ -145,13 +145,9 @@ public final class OutcomeTest {
 
     /** Which evenings a seed refuses, told by the joy of one in each of them. */
     private static void wet() {
-        EveningAuction x = Due.withBids("0001;1101;2201;3301;4401;5001;6101;7201;8301;9401");
-        for (int bidder = 0; bidder < 5; bidder++) {
-            x.joy(0, bidder, 0);
-        }
         for (int owner = 0; owner < 5; owner++) {
-            x.joy(0, owner, 1);
             for (int seed : new int[] {0, 1, 7, -1, MIN, MAX, 123456789}) {
+                EveningAuction x = joyOfOne(owner);
                 for (int clouds : new int[] {0, 1, 5, 8, 15, 16}) {
                     for (int evening = 0; evening < 10; evening++) {
                         x.evening(evening, 1, evening % 2 == 0 ? clouds : 16 - clouds);
@@ -160,12 +156,21 @@ public final class OutcomeTest {
                         dryOf(owner, seed, clouds));
                 }
             }
-            x.joy(0, owner, 0);
         }
+        EveningAuction x = joyOfOne(0);
         for (int bidder : NO_BIDDERS) {
             due.is("19 wet(" + bidder + ", 0)", x.wet(bidder, 0), BAD);
         }
         aLotForEachEveningOwnedOrNot();
+    }
+
+    /** Each owns two evenings; bidder 0 has a joy of 1 in those of one owner alone. */
+    private static EveningAuction joyOfOne(int owner) {
+        EveningAuction x = Due.withBids("0001;1101;2201;3301;4401;5001;6101;7201;8301;9401");
+        for (int programme = 0; programme < 5; programme++) {
+            x.joy(0, programme, programme == owner ? 1 : 0);
+        }
+        return x;
     }
 
     private static int dryOf(int owner, int seed, int clouds) {

@@ -2,8 +2,9 @@ import java.util.Random;
 
 /** Runs of random calls, each answer held against that of the Reference; the seeds are fixed. */
 public final class ReferenceTest {
-    private static final int RUNS = 300;
-    private static final int CALLS = 500;
+    private static final int RUNS = 500;
+    private static final int CALLS = 512;
+    private static final int CALLS_OF_ONE_TURN = 14;
     private static final int KINDS = 41;
     private static final Due due = new Due("ReferenceTest");
 
@@ -11,6 +12,7 @@ public final class ReferenceTest {
     private final Reference r = new Reference();
     private final Random random;
     private final int run;
+    private int asked = 0;
 
     private ReferenceTest(int run) {
         this.run = run;
@@ -26,7 +28,7 @@ public final class ReferenceTest {
 
     private void calls() {
         int favourite = random.nextInt(4);
-        for (int call = 0; call < CALLS; call++) {
+        for (int call = 0; asked + CALLS_OF_ONE_TURN <= CALLS; call++) {
             // A run is either mostly of bids, of settings, of sheets, or of everything alike.
             int kind = favourite == 0 && call % 2 == 0 ? random.nextInt(12)
                 : favourite == 1 && call % 2 == 0 ? 2 + random.nextInt(6)
@@ -48,6 +50,7 @@ public final class ReferenceTest {
     }
 
     private void same(String call, long got, long want) {
+        asked++;
         due.is("run " + run + " with \"" + r.text + "\": " + call, got, want);
     }
 
