@@ -23,7 +23,8 @@ final class Document {
             return;
         }
         String whole = Files.readString(FILE);
-        parts[0] = plain(first(whole, "======== 1 (BIDDERS[^\n]*)\n") + " " + first(whole, "\n(An object is used[^\n]*)\n")
+        parts[0] = plain(first(whole, "======== 1 (BIDDERS[^\n]*)\n")
+            + " " + first(whole, "\n(An object is used[^\n]*)\n")
             + " " + first(whole, "(?s)\n## Terms\n(.*?)\n## Promise 1:"));
         for (int n = 1; n <= PROMISES; n++) {
             parts[n] = plain(first(whole, "\n## Promise " + n + ": [^\n]*\n\n`[^`]*`: ([^\n]*)\n"));

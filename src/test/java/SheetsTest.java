@@ -270,19 +270,26 @@ public final class SheetsTest {
         due.is("41 digest() is without count(8)", x.digest(), new EveningAuction().digest());
     }
 
-    private static void digestIsOfItsParts() {
+    private static EveningAuction ofAllKinds() {
         EveningAuction x = Due.withBids("0020;1130;0125;2240;3045;1350;0022;9410");
-        for (int bidder = 0; bidder < 5; bidder++) {
-            for (int evening = 0; evening < 10; evening++) {
+        for (int evening = 0; evening < 10; evening++) {
+            for (int bidder = 0; bidder < 5; bidder++) {
                 x.value(bidder, evening, (bidder * 37 + evening * 53) % 100);
-                x.evening(evening, 1, evening * 3 % 17);
-                x.evening(evening, 0, evening * 2);
             }
+            x.evening(evening, 1, evening * 3 % 17);
+            x.evening(evening, 0, evening * 2);
+        }
+        for (int bidder = 0; bidder < 5; bidder++) {
             x.joy(bidder, (bidder + 2) % 5, bidder + 1);
         }
         x.bidder(2, 1, 0);
         x.seen(3, 0);
         x.seen(4, 0);
+        return x;
+    }
+
+    private static void digestIsOfItsParts() {
+        EveningAuction x = ofAllKinds();
         due.is("41 digest()", x.digest(), digestByParts(x));
         x.value(1, 0, 10);
         x.value(1, 1, 20);
@@ -292,12 +299,14 @@ public final class SheetsTest {
         due.is("41 swap(0, 1)", x.swap(0, 1), 1);
         due.is("41 swap(0, 2)", x.swap(0, 2), 0);
         due.is("41 digest() with a swap", x.digest(), digestByParts(x));
-        x.set(1, 1);
-        x.set(2, 1);
-        x.busy(0, 1, 1);
-        due.is("41 digest() behind changes", x.digest(), digestByParts(x));
-        x.type(';');
-        due.is("41 digest() with a fault", x.digest(), digestByParts(x));
+        EveningAuction y = ofAllKinds();
+        y.digest();
+        y.set(1, 1);
+        y.set(2, 1);
+        y.busy(0, 1, 1);
+        due.is("41 digest() behind changes", y.digest(), digestByParts(y));
+        y.type(';');
+        due.is("41 digest() with a fault", y.digest(), digestByParts(y));
     }
 
     private static long digestByParts(EveningAuction x) {
